@@ -567,6 +567,7 @@ public final class PromisesTest {
         grown.years(1);
         due("14 after growth", grown.can(), true);
         grown.use(9, 9, 2);
+        due("14 before more growth", grown.can(), true);
         grown.years(1);
         due("14 after more growth", grown.can(), false);
         grown.years(0);
