@@ -8,8 +8,14 @@ public final class ModelTest {
         "apart", "least", "most", "joined", "to", "when", "minus", ";", "0", "1", "5", "6", "9", "10", "60", "61",
         "99", "100", "007", " ", "-", "x", "Law"};
 
+    /** An object is used for at most 512 calls, of which the last 240 look at all squares. */
+    private static final int MOST_CALLS = 512 - 4 * 60;
+    /** One step of a run may feed, end, read a book of 400 bytes and ask for its fault. */
+    private static final int MOST_CALLS_OF_A_STEP = 20 + 3;
+
     private final Random random;
     private final int run;
+    private int calls = 0;
     private LandUses real;
     private PlainLand plain;
 
@@ -19,7 +25,7 @@ public final class ModelTest {
     }
 
     public static void main(String[] args) {
-        int runs = args.length > 0 ? Integer.parseInt(args[0]) : 400;
+        int runs = args.length > 0 ? Integer.parseInt(args[0]) : 600;
         for (int run = 0; run < runs; run++) {
             new ModelTest(run).go();
         }
@@ -29,9 +35,9 @@ public final class ModelTest {
     private void go() {
         real = new LandUses();
         plain = new PlainLand();
-        int calls = 100 + random.nextInt(300);
+        int most = 100 + random.nextInt(MOST_CALLS - 100);
         boolean lawful = random.nextBoolean();
-        for (int i = 0; i < calls; i++) {
+        while (calls + MOST_CALLS_OF_A_STEP <= most) {
             call(lawful);
         }
         for (int square = 0; square < 60; square++) {
@@ -42,6 +48,7 @@ public final class ModelTest {
     }
 
     private void both(String name, Supplier<Object> onReal, Supplier<Object> onPlain) {
+        calls++;
         Checks.due("run " + run + ": " + name, Checks.answer(onReal), Checks.answer(onPlain));
     }
 
