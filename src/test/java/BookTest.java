@@ -59,6 +59,8 @@ public final class BookTest {
         faultIsOfTheLatestBook();
         theTapeIsUsedUp();
         aNewBookTakesTheOldOnesPlace();
+        noLineOfAnOlderBookCounts();
+        theFourteenthLineCounts();
         Checks.finish();
     }
 
@@ -458,5 +460,51 @@ public final class BookTest {
         Checks.dueThrows("wrong after three", x::book, IllegalArgumentException.class);
         due("the third book stays", x.worth(), 180);
         due("its one line", x.count(6), 1);
+    }
+
+    /** Longer books ahead of a shorter one leave nothing behind. */
+    private static void noLineOfAnOlderBookCounts() {
+        String[] kinds = {"wild 5 on 0", "wild 5 near wild 1", "law wild most 0", "law wild least 61",
+            "law wild apart wild 2", "grow wild to homes when wild near 1 1"};
+        for (String kind : kinds) {
+            for (int books = 1; books <= 3; books++) {
+                LandUses x = new LandUses();
+                x.free(0, true);
+                for (int i = 0; i < books; i++) {
+                    Checks.bookOf(x, times(kind, 3));
+                }
+                due("one line", Checks.bookOf(x, "law homes least 0"), 1);
+                due("no worth after " + kind, x.worth(), 0);
+                due("no law after " + kind, x.broken(), -1);
+                due("one law after " + kind, x.count(7), 1);
+                due("a best after " + kind, x.can(), true);
+                due("its worth after " + kind, x.best(), 0);
+                Checks.dueThrows("no line 1 after " + kind, () -> x.adds(1), IndexOutOfBoundsException.class);
+                Checks.dueThrows("no cost 1 after " + kind, () -> x.cost(1), IndexOutOfBoundsException.class);
+                x.years(1);
+                due("no growth after " + kind, x.count(0), 60);
+                due("no line", Checks.bookOf(x, ""), 0);
+                x.years(1);
+                due("no growth without lines", x.count(0), 60);
+            }
+        }
+    }
+
+    private static void theFourteenthLineCounts() {
+        String thirteen = times("law woods least 0", 13);
+        LandUses x = Checks.withBook(thirteen + ";wild 5 on 0");
+        due("worth of line 13", x.worth(), 300);
+        due("line 13 adds", x.adds(13), 300);
+        Checks.bookOf(x, thirteen + ";law wild most 59");
+        due("law of line 13", x.broken(), 13);
+        due("no best by it", x.can(), false);
+        x.free(0, true);
+        due("a best by a free square", x.can(), true);
+        Checks.bookOf(x, thirteen + ";law homes least 0");
+        due("no growth by fourteen laws", x.years(20), 20);
+        due("no growth", x.count(0), 60);
+        Checks.bookOf(x, thirteen + ";grow wild to woods when wild near1 8");
+        x.years(1);
+        due("growth by line 13", x.count(4), 8 * 4);
     }
 }

@@ -1,8 +1,10 @@
+import java.util.NoSuchElementException;
+
 /** The sentences of the promises that name a bound: at it, and on both sides of it. */
 public final class CallsTest {
     private static final Class<IndexOutOfBoundsException> INDEX = IndexOutOfBoundsException.class;
     private static final Class<IllegalArgumentException> ARGUMENT = IllegalArgumentException.class;
-    private static final Class<java.util.NoSuchElementException> NO_SUCH = java.util.NoSuchElementException.class;
+    private static final Class<NoSuchElementException> NO_SUCH = NoSuchElementException.class;
     private static final int LOW = Integer.MIN_VALUE;
     private static final int HIGH = Integer.MAX_VALUE;
     private static final int BLANKS = 0x20202020;
@@ -23,6 +25,8 @@ public final class CallsTest {
         bestOfSeveralTheLeastUses();
         bestWhoseFreeSquaresHaveUses();
         bestByAllLaws();
+        bestByLawsOfSquaresThatAreNotFree();
+        bestOfEachPairOnce();
         givenWithoutOne();
         takeTakesAll();
         costWithAndWithout();
@@ -357,6 +361,43 @@ public final class CallsTest {
         due("exactly as many as are free", x.can(), true);
         x.use(2, 2, 0);
         due("one too few", x.can(), false);
+    }
+
+    /** On each line, a law that squares break which are not free: no best, whatever is given. */
+    private static void bestByLawsOfSquaresThatAreNotFree() {
+        String[] laws = {"law works apart works 2", "law works apart farms 3", "law works joined", "law works most 3",
+            "law works least 7"};
+        for (String law : laws) {
+            for (int line = 0; line < 14; line++) {
+                LandUses x = Checks.withBook("farms 1 on 0;".repeat(line) + law);
+                Checks.draw(x, "ww.w.wf");
+                x.free(40, true);
+                x.free(59, true);
+                due("broken by line " + line, x.broken(), line);
+                due("no best by line " + line, x.can(), false);
+                due("nothing is given by line " + line, x.given(40), -1);
+                due("nothing is taken by line " + line, x.take(), false);
+            }
+        }
+    }
+
+    /** What was tried on a free square is nothing to what is tried after it. */
+    private static void bestOfEachPairOnce() {
+        for (int use = 1; use <= 4; use++) {
+            String name = new String[] {"wild", "homes", "works", "farms", "woods"}[use];
+            LandUses x = Checks.withBook(name + " 5 near " + name + " 1");
+            for (int square = 0; square < 5; square++) {
+                x.free(square, true);
+                due("a row of " + name, x.best(), 10 * square);
+                due("the first of them", x.given(0), square == 0 ? 1 : use);
+            }
+            Checks.bookOf(x, name + " minus 5 near " + name + " 5;law " + name + " least 5");
+            due("all of them, five steps or fewer", x.best(), -5 * 20);
+            due("cost", x.cost(1), 100);
+            Checks.bookOf(x, name + " minus 5 near " + name + " 1;law " + name + " least 3");
+            due("three with gaps", x.best(), 0);
+            due("with gaps", x.given(4), use);
+        }
     }
 
     private static void givenWithoutOne() {
