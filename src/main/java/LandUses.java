@@ -685,6 +685,9 @@ public final class LandUses {
      * use too: it is one of those that there would be without that law, so one search tells all costs.
      */
     private static final class Search {
+        /** Far below what any land can be worth: 14 lines of 99 for 60 times 59 pairs. */
+        private static final int BELOW_ANY_WORTH = -1_000_000_000;
+
         private final Land trial;
         private final int[] squares;
         private final Uses bestUses;
@@ -710,7 +713,7 @@ public final class LandUses {
             found = false;
             bestWorth = 0;
             for (int i = 0; i < MOST_LINES; i++) {
-                worthBreaking[i] = Integer.MIN_VALUE;
+                worthBreaking[i] = BELOW_ANY_WORTH;
             }
             listSquares(freeSquares);
             trial.uses.become(land.uses);

@@ -7,6 +7,8 @@ import java.nio.file.Path;
 import java.util.Arrays;
 import java.util.Set;
 import java.util.TreeSet;
+import java.util.regex.Matcher;
+import java.util.regex.Pattern;
 import java.util.stream.Collectors;
 
 /** The face is the document's and no more, and the source keeps to what LANGUAGE.md lets a test see. */
@@ -75,10 +77,12 @@ public final class FaceTest {
                 Checks.due("a private method named " + method.getName(), names.contains(method.getName()), false);
             }
         }
+        fieldsOf(face);
         Class<?>[] classes = face.getDeclaredClasses();
         Checks.due("at most eleven classes inside", classes.length <= 11, true);
         for (Class<?> inner : classes) {
             Checks.due(inner.getName() + " is static", Modifier.isStatic(inner.getModifiers()), true);
+            fieldsOf(inner);
             for (Method method : inner.getDeclaredMethods()) {
                 Checks.due(inner.getName() + " has " + method.getName(), names.contains(method.getName()), false);
                 Checks.due(method.getName() + " has few parameters", method.getParameterCount() <= 7, true);
@@ -86,11 +90,33 @@ public final class FaceTest {
         }
     }
 
+    /** Static fields are constants, and there are not many others. */
+    private static void fieldsOf(Class<?> type) {
+        int own = 0;
+        for (Field field : type.getDeclaredFields()) {
+            if (Modifier.isStatic(field.getModifiers())) {
+                boolean constant = Modifier.isFinal(field.getModifiers())
+                        && (field.getType() == int.class || field.getType() == long.class);
+                Checks.due(type.getName() + "." + field.getName() + " is a constant", constant, true);
+            } else {
+                own++;
+            }
+        }
+        Checks.due("fields of " + type.getName() + ": " + own + ", at most twenty", own <= 20, true);
+    }
+
     private static void source(String text) {
         for (String word : new String[] {"->", "::", "synchronized", "finally", "assert ", "Exact(", "static {",
             "try", "catch", "hashCode", "System.", "float", "double", "Object", "package "}) {
             Checks.due("the source holds " + word, text.contains(word), false);
         }
+        Set<String> library = new TreeSet<>();
+        Matcher matcher = Pattern.compile("\\b(?:Math|Integer|Long|String|System|Arrays|Character|Byte)\\.\\w+")
+                .matcher(text);
+        while (matcher.find()) {
+            library.add(matcher.group());
+        }
+        Checks.due("of the library", library, Set.of("Math.max", "Math.min", "Integer.bitCount", "Long.bitCount"));
         Checks.due("signs 1 to 127 alone", text.chars().allMatch(c -> c > 0 && c < 128), true);
         for (String line : text.split("\n")) {
             if (line.startsWith("import ")) {
